@@ -589,8 +589,22 @@ final class PromiseTests {
         lay(y, 7, 0, 1, 1, 2, 2, 0, 3, 4, 4, 5, 5, 6, 6, 3);
         due("18: a ring of 7 is not there", y.table(2, 7, false), -1);
         due("18: swapped", y.swap(0, 3, false) && y.table(2, 7, false) == 7, true);
+        due("18: behind mend()", tableBehindMending(), 6);
         Shortring p = proved();
         due("18: proved is ruled out", p.ruledOut(10, 5, 4) + p.table(5, 4, true), 10);
+    }
+
+    /** Two triangles, mended to one ring of 6 by the first seed that does it. */
+    private static int tableBehindMending() {
+        for (int seed = 0; seed < 50; seed++) {
+            Shortring x = new Shortring();
+            x.ring(6, 4);
+            if (x.mend(4, seed, 5) == 1) {
+                due("7: two triangles were mended", x.now(3), 6);
+                return x.table(2, 6, false);
+            }
+        }
+        return -2;
     }
 
     private static Shortring proved() {
