@@ -5,6 +5,12 @@ public final class AllTests {
 
     public static void main(String[] args) throws Exception {
         PromiseTests.run();
+        GardenBounds.run();
+        SearchBounds.run();
+        AskBounds.run();
+        KeptBounds.run();
+        SoundTests.run();
+        GridTests.run();
         RoomTests.run();
         RandomRunTests.run(400, 0);
         LanguageTests.run(args.length > 0 ? args[0] : "src/main/java/Shortring.java");

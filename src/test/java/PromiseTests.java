@@ -798,7 +798,7 @@ final class PromiseTests {
         return x;
     }
 
-    private static long sumOf(Shortring x) {
+    static long sumOf(Shortring x) {
         long d = 9241;
         for (int what = 0; what <= 10; what++) {
             d = d * 31 + x.now(what);
