@@ -1089,7 +1089,7 @@ public final class Shortring {
         private static int leastKnots(int count, int length) {
             int power = 1;
             int sum = 0;
-            int powers = length % 2 == 1 ? (length - 1) / 2 : length / 2;
+            int powers = length / 2;
             for (int number = 0; number < powers; number++) {
                 sum += power;
                 power *= count - 1;

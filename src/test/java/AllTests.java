@@ -12,7 +12,7 @@ public final class AllTests {
         SoundTests.run();
         GridTests.run();
         RoomTests.run();
-        RandomRunTests.run(400, 0);
+        RandomRunTests.run(300, 0);
         LanguageTests.run(args.length > 0 ? args[0] : "src/main/java/Shortring.java");
         System.out.println(Checks.passed + " passed, " + Checks.failed + " failed");
         if (Checks.failed != 0 || Checks.passed == 0) {

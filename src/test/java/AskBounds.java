@@ -76,6 +76,28 @@ final class AskBounds {
         Sentence.of("11: NONE, if it is not EVEN").due("garden 3; edge 0 1 true; now 4", -1)
                 .due("garden 3; edge 1 2 true; now 4", -1).due(FULL + "; edge 14 15 false; now 4", -1)
                 .due(PATH + "; now 4", -1).due("garden 16; edge 0 15 true; now 4", -1).due("garden 5; edges 0-1 2-3; now 4", -1);
+        for (int knot = 0; knot < 16; knot++) {
+            Sentence.of("11: NONE, as one KNOT alone has another COUNT").due(oneUnlike(knot) + "; now 4", -1)
+                    .due(oneUnlike(knot) + "; now 9", 65535 - (1 << knot));
+        }
+        Sentence.of("11: NONE, as one KNOT of three has another COUNT").due("garden 3; edges 0-1 0-2; now 4", -1)
+                .due("garden 3; edges 1-0 1-2; now 4", -1).due("garden 3; edges 2-0 2-1; now 4", -1);
+    }
+
+    /** 16 KNOTS with one EDGE each, but for one that has three. */
+    private static String oneUnlike(int knot) {
+        int[] others = new int[15];
+        for (int i = 0; i < others.length; i++) {
+            others[i] = (knot + 1 + i) % 16;
+        }
+        StringBuilder text = new StringBuilder("garden 16; edges");
+        for (int i = 0; i < 3; i++) {
+            text.append(' ').append(knot).append('-').append(others[i]);
+        }
+        for (int i = 3; i < others.length; i += 2) {
+            text.append(' ').append(others[i]).append('-').append(others[i + 1]);
+        }
+        return text.toString();
     }
 
     private static void width() {
