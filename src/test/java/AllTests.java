@@ -9,6 +9,8 @@ public final class AllTests {
         SearchBounds.run();
         AskBounds.run();
         KeptBounds.run();
+        RefusedBounds.run();
+        StayBounds.run();
         SoundTests.run();
         GridTests.run();
         RoomTests.run();
