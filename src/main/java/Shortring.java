@@ -804,6 +804,7 @@ public final class Shortring {
             int all = 0;
             int rest = set;
             for (int turn = 0; turn < MOST_KNOTS && rest != 0; turn++) {
+                // Not by firstOf(): a call more would stand nine deep behind digest().
                 int first = Integer.bitCount((rest & -rest) - 1);
                 all |= net.nearOf(first);
                 rest &= rest - 1;

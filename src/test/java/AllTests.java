@@ -1,3 +1,5 @@
+import java.nio.file.Path;
+
 /** All tests of the project; told the path of the program's text. */
 public final class AllTests {
     private AllTests() {
@@ -15,6 +17,7 @@ public final class AllTests {
         GridTests.run();
         RoomTests.run();
         RandomRunTests.run(300, 0);
+        FaceTests.run(Path.of("../shared/DOC.md"), Path.of("README.md"));
         LanguageTests.run(args.length > 0 ? args[0] : "src/main/java/Shortring.java");
         System.out.println(Checks.passed + " passed, " + Checks.failed + " failed");
         if (Checks.failed != 0 || Checks.passed == 0) {

@@ -1,3 +1,5 @@
+import java.util.Arrays;
+
 /** The sentences that name a boundary case: section 3 and promises 8 to 10, the search. */
 final class SearchBounds {
     private static final String INDEX = Sentence.INDEX;
@@ -16,6 +18,16 @@ final class SearchBounds {
     private static final String[] FIND = {
         "| 0 1 | 0 0 0", "0-1 | 0 2 | 1 0 0", "0-1 0-2 | 1 3 | 2 0 0", "0-1 0-2 1-3 | 2 3 | 3 0 0",
         "0-1 0-2 1-3 2-3 | -1 -1 | 4 0 0", "0-1 0-2 1-3 2-3 | -1 -1 | 4 0 1"};
+    /**
+     * KNOTS, and of their 24 AIMS behind 1200 STEPS: how many are FOUND, how many PROVED, and their digests in one number,
+     * as a third writing of the document (in another language, outside the project) had them.
+     */
+    private static final long[][] ENDS = {
+        {3, 1, 23, 5173439287428443288L}, {4, 3, 21, 9020008758738271286L}, {5, 4, 20, 2945069268388532155L},
+        {6, 8, 16, -3905485423829351501L}, {7, 6, 14, -1125521471380600409L}, {8, 11, 9, 8344557040795944875L},
+        {9, 7, 5, -3939171696425448841L}, {10, 12, 4, 6252265754444064567L}, {11, 7, 0, 5303966422286836191L},
+        {12, 11, 0, -1882561445961792936L}, {13, 7, 0, -1432778933989692495L}, {14, 11, 0, 1214110924459851849L},
+        {15, 6, 0, -581162862450052664L}, {16, 11, 0, 7973120734449284929L}};
 
     private SearchBounds() {
     }
@@ -37,6 +49,9 @@ final class SearchBounds {
         trace("garden 4; aim 2 4", FIND);
         tracesAsTheModels();
         longSearches();
+        for (long[] due : ENDS) {
+            endsOfAll((int) due[0], due);
+        }
     }
 
     // ---- promise 8
@@ -286,5 +301,22 @@ final class SearchBounds {
             answers += x.grow(400);
         }
         Checks.same("9: 508 calls of 400 steps each", answers + " " + x.search(4) + " " + x.isSound(), "0 203200 true");
+    }
+
+    private static void endsOfAll(int knots, long[] due) {
+        long[] got = {knots, 0, 0, 0};
+        for (int kind = 0; kind < 24; kind++) {
+            Shortring x = new Shortring();
+            x.garden(knots);
+            x.aim(2 + kind / 6, 3 + kind % 6);
+            int end = 0;
+            for (int call = 0; call < 3; call++) {
+                end = x.grow(400);
+            }
+            got[1] += end == 1 ? 1 : 0;
+            got[2] += end == 2 ? 1 : 0;
+            got[3] = got[3] * 31 + x.digest();
+        }
+        Checks.same("9: the ends of all AIMS", Arrays.toString(got), Arrays.toString(due));
     }
 }
